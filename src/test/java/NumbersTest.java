@@ -1,0 +1,126 @@
+import java.math.BigInteger;
+import java.util.Random;
+
+/** Promises 18 and 19: sign and good, against BigInteger. */
+public final class NumbersTest {
+    private static final Due DUE = new Due("NumbersTest");
+    private static final long LEAST = 1L << 57;
+    private static final long MOST = (1L << 62) - 1;
+
+    public static void main(String[] args) {
+        signing();
+        wrongKeys();
+        goodSignatures();
+        edges();
+        anyPowers();
+        DUE.end();
+    }
+
+    private static void signing() {
+        CertificateVault x = new CertificateVault();
+        Random random = new Random(1);
+        for (int key = 0; key < 6; key++) {
+            for (int h : new int[] {0, 1, -1, Integer.MIN_VALUE, Integer.MAX_VALUE, random.nextInt(), random.nextInt()}) {
+                DUE.is("sign(" + key + ", " + h + ")", x.sign(key, h), Elements.signature(key, h));
+            }
+        }
+    }
+
+    private static void wrongKeys() {
+        CertificateVault x = new CertificateVault();
+        for (int key : new int[] {-1, 6, 7, Integer.MIN_VALUE, Integer.MAX_VALUE}) {
+            DUE.is("sign(" + key + ", 5)", x.sign(key, 5), -1);
+        }
+    }
+
+    private static void goodSignatures() {
+        CertificateVault x = new CertificateVault();
+        for (int key = 0; key < 6; key++) {
+            long n = Elements.MODULI[key];
+            long e = Elements.EXPONENTS[key];
+            for (int h : new int[] {0, 7, -7, Integer.MIN_VALUE}) {
+                long s = x.sign(key, h);
+                DUE.is("good with key " + key, x.good(s, n, e, h), true);
+                DUE.is("good of another int", x.good(s, n, e, h + 1), false);
+                DUE.is("good of another signature", x.good(s + 1, n, e, h), false);
+                DUE.is("good of another exponent", x.good(s, n, e + 2, h), false);
+                DUE.is("good of another modulus", x.good(s, n + 2, e, h), false);
+                DUE.is("good of a signature not below the modulus", x.good(s + n, n, e, h), false);
+                DUE.is("good of a negative signature", x.good(s - n, n, e, h), false);
+                DUE.is("good of a negative modulus", x.good(s, -n, e, h), false);
+                DUE.is("good of a negative exponent", x.good(s, n, -e, h), false);
+            }
+        }
+    }
+
+    private static BigInteger big(long v) {
+        return BigInteger.valueOf(v);
+    }
+
+    /** A signature for a modulus near the given one: modulo a prime its maker is easy to find. */
+    private static void edge(long near, int step, long e, boolean want) {
+        long n = near;
+        while (!big(n).isProbablePrime(60) || big(n - 1).gcd(big(e)).intValue() != 1) {
+            n += step;
+        }
+        long root = Elements.block(99).modPow(big(e).modInverse(big(n - 1)), big(n)).longValueExact();
+        DUE.is("good(" + root + ", " + n + ", " + e + ", 99)", new CertificateVault().good(root, n, e, 99), want);
+    }
+
+    private static void edges() {
+        long[] exponents = {3, 5, 65537, (1L << 31) - 1};
+        for (long e : exponents) {
+            edge(LEAST + 1, 2, e, true);
+            edge(LEAST - 1, -2, e, false);
+            edge(MOST, -2, e, true);
+            edge(MOST + 2, 2, e, false);
+        }
+        edge(MOST, -2, 1, false);
+        edge(MOST, -2, (1L << 31) + 11, false);
+        CertificateVault x = new CertificateVault();
+        long block = Elements.block(5).longValueExact();
+        DUE.is("exponent 1", x.good(block, Elements.MODULI[0], 1, 5), false);
+        DUE.is("exponent 0", x.good(block, Elements.MODULI[0], 0, 5), false);
+        DUE.is("exponent 2", x.good(block, Elements.MODULI[0], 2, 5), false);
+        DUE.is("modulus 0", x.good(0, 0, 3, 5), false);
+        DUE.is("modulus 1", x.good(0, 1, 3, 5), false);
+        DUE.is("all MAX", x.good(Long.MAX_VALUE, Long.MAX_VALUE, Long.MAX_VALUE, -1), false);
+        DUE.is("all MIN", x.good(Long.MIN_VALUE, Long.MIN_VALUE, Long.MIN_VALUE, 0), false);
+        evenModuli(x);
+    }
+
+    /** A root modulo a prime, made even as the block is, is a root modulo twice the prime too. */
+    private static void evenModuli(CertificateVault x) {
+        int even = 0;
+        long p = (1L << 58) + 1;
+        for (int found = 0; found < 20; p += 2) {
+            if (big(p).isProbablePrime(40) && p % 3 == 2) {
+                found++;
+                long s = Elements.block(8).modPow(big(3).modInverse(big(p - 1)), big(p)).longValueExact();
+                long lifted = s % 2 == 0 ? s : s + p;
+                long n = 2 * p;
+                even += big(lifted).modPow(big(3), big(n)).equals(Elements.block(8)) ? 1 : 0;
+                DUE.is("an even modulus " + n, x.good(lifted, n, 3, 8), false);
+            }
+        }
+        DUE.is("even moduli for which only the evenness is wrong", even, 20);
+    }
+
+    private static void anyPowers() {
+        CertificateVault x = new CertificateVault();
+        Random random = new Random(2);
+        for (int k = 0; k < 2000; k++) {
+            long p = LEAST + (random.nextLong() & (MOST >> 1)) | 1;
+            p = Math.min(p, MOST);
+            long e = 3 + random.nextInt(Integer.MAX_VALUE - 2);
+            while (!big(p).isProbablePrime(30) || big(p - 1).gcd(big(e)).intValue() != 1) {
+                p = p >= MOST ? LEAST + 1 : p + 2;
+                e = 3 + random.nextInt(Integer.MAX_VALUE - 2);
+            }
+            int h = random.nextInt();
+            long s = Elements.block(h).modPow(big(e).modInverse(big(p - 1)), big(p)).longValueExact();
+            DUE.is("good(" + s + ", " + p + ", " + e + ", " + h + ")", x.good(s, p, e, h), true);
+            DUE.is("a wrong signature", x.good(s == 0 ? 1 : s - 1, p, e, h), false);
+        }
+    }
+}
