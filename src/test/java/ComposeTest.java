@@ -8,6 +8,7 @@ public final class ComposeTest {
         eachExtension();
         reachNeedsAuthority();
         longest();
+        everyLength();
         lists();
         draftIsReplaced();
         DUE.end();
@@ -104,6 +105,35 @@ public final class ComposeTest {
         DUE.is("composeList()", x.composeList(), Elements.signed(3, listBody).length);
         DUE.is("the longest list", Elements.draft(x), Elements.signed(3, listBody));
         DUE.is("check(false)", x.check(false), 0);
+    }
+
+    /** Lengths round 127 and 128, where the second form of a length begins. */
+    private static void everyLength() {
+        String name = "abcdefgh";
+        int found = 0;
+        for (int allowed = 1; allowed <= 8; allowed++) {
+            for (int barred = 1; barred <= 8; barred++) {
+                for (int bytes = 0; bytes < 8; bytes++) {
+                    long serial = 1L << 8 * bytes;
+                    CertificateVault x = new CertificateVault();
+                    long[] fields = {serial, Elements.nameValue(name), 0, 1000, Elements.nameValue(name), 3, 1, 9, 7,
+                        Elements.nameValue(name.substring(0, allowed)), Elements.nameValue(name.substring(0, barred)), 2, 3};
+                    for (int field = 0; field < fields.length; field++) {
+                        x.set(field, fields[field]);
+                    }
+                    byte[] realm = Elements.sequence(Elements.text(128, name.substring(0, allowed)),
+                        Elements.text(129, name.substring(0, barred)));
+                    byte[] body = Elements.body(serial, name, name, 3,
+                        extension(1, true, Elements.sequence(Elements.flag(), Elements.integer(9))),
+                        extension(2, true, Elements.integer(7)), extension(3, true, realm),
+                        extension(9, true, Elements.element(4)));
+                    byte[] whole = Elements.signed(3, body);
+                    found |= whole.length == 129 ? 1 : whole.length == 131 ? 2 : 0;
+                    certificateIs("lengths", x, whole);
+                }
+            }
+        }
+        DUE.is("certificates with a content of 127 and of 128 bytes", found, 3);
     }
 
     private static void lists() {

@@ -12,6 +12,7 @@ public final class NumbersTest {
         wrongKeys();
         goodSignatures();
         edges();
+        exactEdges();
         anyPowers();
         DUE.end();
     }
@@ -76,6 +77,7 @@ public final class NumbersTest {
             edge(MOST + 2, 2, e, false);
         }
         edge(MOST, -2, 1, false);
+        edge(MOST, -2, (1L << 31) + 1, false);
         edge(MOST, -2, (1L << 31) + 11, false);
         CertificateVault x = new CertificateVault();
         long block = Elements.block(5).longValueExact();
@@ -87,6 +89,49 @@ public final class NumbersTest {
         DUE.is("all MAX", x.good(Long.MAX_VALUE, Long.MAX_VALUE, Long.MAX_VALUE, -1), false);
         DUE.is("all MIN", x.good(Long.MIN_VALUE, Long.MIN_VALUE, Long.MIN_VALUE, 0), false);
         evenModuli(x);
+    }
+
+    /** A signature for a modulus that is the product of the primes, equal ones side by side. */
+    private static void composite(long modulus, long e, boolean want, long... primes) {
+        BigInteger product = BigInteger.ONE;
+        BigInteger order = BigInteger.ONE;
+        long before = 1;
+        for (long p : primes) {
+            product = product.multiply(big(p));
+            order = order.multiply(big(p == before ? p : p - 1));
+            before = p;
+        }
+        DUE.isTrue("the primes of " + modulus, product.equals(big(modulus)));
+        long root = Elements.block(99).modPow(big(e).modInverse(order), product).longValueExact();
+        DUE.isTrue("a root modulo " + modulus, big(root).modPow(big(e), product).equals(Elements.block(99)));
+        DUE.is("good(" + root + ", " + modulus + ", " + e + ", 99)",
+            new CertificateVault().good(root, modulus, e, 99), want);
+    }
+
+    private static void exactEdges() {
+        composite(MOST, 65537, true, 3, 715827883, 2147483647);
+        composite(MOST + 2, 65537, false, 5, 5581, 8681, 49477, 384773);
+        composite(LEAST - 1, 65537, false, 7, 32377, 524287, 1212847);
+        composite(LEAST + 1, 65537, true, 3, 3, 571, 174763, 160465489);
+        evenExponent();
+    }
+
+    /** Modulo a prime of 4 k + 3 a square has roots of every power of two. */
+    private static void evenExponent() {
+        long e = 1L << 31;
+        long p = MOST - 4;
+        BigInteger half = big((p - 1) / 2);
+        while (p % 4 != 3 || !big(p).isProbablePrime(60) || !Elements.block(99).modPow(half, big(p)).equals(BigInteger.ONE)) {
+            p--;
+            half = big((p - 1) / 2);
+        }
+        BigInteger root = Elements.block(99).modPow(big(e).modInverse(half), big(p));
+        DUE.isTrue("a root of 2^31", root.modPow(big(e), big(p)).equals(Elements.block(99)));
+        DUE.is("exponent 2^31", new CertificateVault().good(root.longValueExact(), p, e, 99), false);
+        BigInteger two = Elements.block(99).modPow(big(2).modInverse(half), big(p));
+        DUE.is("exponent 2", new CertificateVault().good(two.longValueExact(), p, 2, 99), false);
+        BigInteger four = Elements.block(99).modPow(big(4).modInverse(half), big(p));
+        DUE.is("exponent 4", new CertificateVault().good(four.longValueExact(), p, 4, 99), true);
     }
 
     /** A root modulo a prime, made even as the block is, is a root modulo twice the prime too. */

@@ -29,6 +29,7 @@ public final class ReadTest {
         opaque();
         lists();
         moreOrder();
+        bytesThatAreGone();
         checkChangesNothing();
         DUE.end();
     }
@@ -81,6 +82,8 @@ public final class ReadTest {
         check("inner tag at the end", true, fault(END, 2), Elements.bytes(48, 1, 48));
         check("inner length beyond the outer", true, fault(END, 2), Elements.bytes(48, 2, 48, 1, 0));
         check("inner second length byte beyond the outer", true, fault(END, 2), Elements.bytes(48, 2, 48, 129, 200));
+        check("inner second length byte beyond the outer, too small", true, fault(END, 2),
+            Elements.bytes(48, 2, 48, 129, 5));
         check("inner length 128", true, fault(LENGTH, 2), Elements.bytes(48, 2, 48, 128));
         byte[] longOne = withBody(SEVEN, Elements.sequence(Elements.sequence(Elements.integer(9),
             Elements.element(4, new byte[140]))));
@@ -192,6 +195,8 @@ public final class ReadTest {
         check("an empty second EXTENSION", true, fault(END, 38), withExtensions(other(9), Elements.sequence()));
         check("a second EXTENSION that ends with its tag", true, fault(END, 36),
             withExtensions(other(9), Elements.bytes(48)));
+        check("a sequence behind a value is no next EXTENSION", true, fault(MORE, 36),
+            withExtensions(Elements.sequence(Elements.integer(4), Elements.element(4), other(5))));
         check("EXTENSIONS twice", true, fault(MORE, 36),
             withBody(SEVEN, Elements.sequence(other(9)), Elements.sequence(other(10))));
     }
@@ -300,6 +305,8 @@ public final class ReadTest {
         check("an entry without a date", false, fault(END, 20), list(Elements.sequence(Elements.integer(1))));
         check("an entry with more", false, fault(MORE, 23),
             list(Elements.sequence(Elements.integer(1), Elements.integer(1), Elements.integer(1))));
+        check("an entry with an entry", false, fault(MORE, 23),
+            list(Elements.sequence(Elements.integer(1), Elements.integer(1), one)));
         check("an entry with a wrong date", false, fault(CONTENT, 20),
             list(Elements.sequence(Elements.integer(1), Elements.element(2))));
         check("an entry with a name", false, fault(TAG, 17), list(Elements.sequence(Elements.name("a"))));
@@ -333,6 +340,23 @@ public final class ReadTest {
         check("more in an extension before a wrong signature", true, fault(MORE, 36),
             Elements.sequence(Elements.sequence(SEVEN, Elements.sequence(Elements.sequence(Elements.integer(4),
                 Elements.element(4), more))), Elements.name("a")));
+    }
+
+    /** What stood in a longer draft before is not read behind the end of a shorter one. */
+    private static void bytesThatAreGone() {
+        byte[] whole = withBody(SEVEN);
+        for (int length = 0; length < whole.length; length++) {
+            CertificateVault x = new CertificateVault();
+            Elements.fill(x, whole);
+            Elements.fill(x, copyOf(whole, length));
+            DUE.is("the first " + length + " bytes", x.check(true), fault(END, 0));
+        }
+        for (int behind = 0; behind < 256; behind++) {
+            CertificateVault x = new CertificateVault();
+            Elements.fill(x, Elements.bytes(48, 129, behind, 48));
+            Elements.fill(x, Elements.bytes(48, 129));
+            DUE.is("129 at the end", x.check(true), fault(END, 0));
+        }
     }
 
     private static void checkChangesNothing() {

@@ -32,10 +32,12 @@ public final class ValidateTest {
         searchOrder();
         anchorsEndAPart();
         circles();
+        ownIssuer();
         depths();
         fortyCandidates();
         refusedValidateChangesNothing();
         storedLaterCounts();
+        readButNotStored();
         DUE.end();
     }
 
@@ -257,6 +259,8 @@ public final class ValidateTest {
         DUE.is("not barred, for want of a dot", realm(barred, "ab.c"), 3);
         DUE.is("not barred, the outer one", realm(barred, "c"), 3);
         DUE.is("not barred, another", realm(barred, "d"), 3);
+        DUE.is("barred by one letter", realm(pairs(BASIC, 1, BARRED, name("a")), "b.a"), -15);
+        DUE.is("allowed by one letter", realm(pairs(BASIC, 1, ALLOWED, name("a")), "b.c"), -15);
         long[] both = {BASIC, 1, ALLOWED, name("c"), BARRED, name("b.c")};
         DUE.is("allowed and not barred", realm(both, "a.c"), 3);
         DUE.is("allowed and barred", realm(both, "a.b.c"), -15);
@@ -456,6 +460,14 @@ public final class ValidateTest {
         is("a circle's own member", x, x.validate(1, 5, 5, false), 3, 3, 0, 1);
     }
 
+    private static void ownIssuer() {
+        CertificateVault x = new CertificateVault();
+        make(x, 1, "t>t", 0, 0, BASIC, 1);
+        make(x, 0, "r>t", 1, 1);
+        is("a self-issued target is not put before itself", x, x.validate(0, 5, 5, false), -11);
+        DUE.is("candidates()", x.candidates(), 1);
+    }
+
     private static void depths() {
         CertificateVault x = new CertificateVault();
         make(x, 0, "r>r", 0, 0);
@@ -513,6 +525,34 @@ public final class ValidateTest {
         x.store(0);
         DUE.is("chain(0) after other calls", x.chain(0), -1);
         DUE.is("candidates() after other calls", x.candidates(), 1);
+    }
+
+    /** What was read and not stored, or stored and full of faults, has no part in a search. */
+    private static void readButNotStored() {
+        CertificateVault x = new CertificateVault();
+        make(x, 0, "r>r", 0, 0);
+        make(x, 1, "m>t", 2, 1, SERIAL, 9);
+        make(x, 3, "r>m", 1, 0, BASIC, 1, STRANGE, 2);
+        DUE.is("check(true)", x.check(true), 0);
+        is("a middle that was only read", x, x.validate(1, 5, 3, false), 0);
+        makeList(x, "m", 1, 0, 1000, 9, 0);
+        make(x, 1, "r>m", 2, 0, BASIC, 1);
+        is("another key than that which was read", x, x.validate(1, 5, 3, false), -11);
+        make(x, 1, "m>u", 3, 2, SERIAL, 9);
+        is("its list does not count", x, x.validate(3, 5, 3, false), 3, 0, 2, 3);
+        CertificateVault y = new CertificateVault();
+        make(y, 0, "r>r", 0, 0);
+        makeList(y, "r", 0, 0, 1000);
+        y.revoke(9, 0);
+        y.composeList();
+        DUE.is("check(false)", y.check(false), 0);
+        make(y, 1, "r>t", 2, 0, SERIAL, 9);
+        make(y, 0, "r>r", 0, 0);
+        y.set(2, 1);
+        y.set(12, 5);
+        y.composeList();
+        DUE.is("store(2)", y.store(2), 1);
+        is("a list with a wrong signature in the place of one that was read", y, y.validate(1, 5, 2, true), 2, 0, 1);
     }
 
     /** Chains need not be stored from the anchor on, nor lists behind what they are for. */
