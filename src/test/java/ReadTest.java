@@ -30,6 +30,7 @@ public final class ReadTest {
         lists();
         moreOrder();
         bytesThatAreGone();
+        fullDraft();
         checkChangesNothing();
         DUE.end();
     }
@@ -80,6 +81,7 @@ public final class ReadTest {
         check("length 129 255 too long", true, fault(END, 0), Elements.bytes(48, 129, 255, 48));
         check("length 127 too long", true, fault(END, 0), Elements.bytes(48, 127, 48));
         check("inner tag at the end", true, fault(END, 2), Elements.bytes(48, 1, 48));
+        check("inner tag at the end, a wrong length behind it", true, fault(END, 2), Elements.bytes(48, 1, 48, 128));
         check("inner length beyond the outer", true, fault(END, 2), Elements.bytes(48, 2, 48, 1, 0));
         check("inner second length byte beyond the outer", true, fault(END, 2), Elements.bytes(48, 2, 48, 129, 200));
         check("inner second length byte beyond the outer, too small", true, fault(END, 2),
@@ -357,6 +359,33 @@ public final class ReadTest {
             Elements.fill(x, Elements.bytes(48, 129));
             DUE.is("129 at the end", x.check(true), fault(END, 0));
         }
+    }
+
+    /** A draft of 200 bytes that ends with the given ones behind the body. */
+    private static byte[] full(int... tail) {
+        int filler = 200 - 3 - tail.length - 3 - SEVEN.length - 3 - 3 - 3 - 3;
+        byte[] opaque = Elements.element(4, new byte[filler]);
+        byte[] extension = Elements.sequence(Elements.integer(9), opaque);
+        byte[] draft = Elements.sequence(Elements.sequence(SEVEN, Elements.sequence(extension)), Elements.bytes(tail));
+        DUE.is("bytes of a full draft", draft.length, 200);
+        return draft;
+    }
+
+    private static void fullDraft() {
+        check("200 bytes", true, 0, full(2, 1, 5));
+        check("200 bytes that end with the body", true, fault(END, 200), full());
+        check("200 bytes that end with a tag", true, fault(END, 199), full(2));
+        check("200 bytes that end with a length", true, fault(END, 198), full(2, 1));
+        check("200 bytes that end with a length's first byte", true, fault(END, 198), full(2, 129));
+        check("200 bytes that end with a length's second byte", true, fault(END, 197), full(2, 129, 128));
+        check("200 bytes and an integer without bytes", true, fault(CONTENT, 198), full(2, 0));
+        check("200 bytes and an integer of one 0", true, 0, full(2, 1, 0));
+        check("200 bytes with one too many", true, fault(MORE, 199), full(2, 1, 5, 7));
+        CertificateVault x = new CertificateVault();
+        for (int k = 0; k < 200; k++) {
+            x.put(48);
+        }
+        DUE.is("200 times a sequence's tag", x.check(true), fault(END, 2));
     }
 
     private static void checkChangesNothing() {
