@@ -95,20 +95,16 @@ public final class CertificateVault {
     }
 
     public int store(int kind) {
-        boolean isList = kind == KIND_LIST;
-        if (!isList && kind != KIND_ANCHOR && kind != KIND_OTHER) {
-            return NONE;
+        if (kind == KIND_LIST && shelf.listCount < MOST_LISTS) {
+            int fault = new Reader(draft).readList(shelf.nextList());
+            return fault == 0 ? shelf.keepList() : FAULTY;
         }
-        if (isList ? shelf.listCount >= MOST_LISTS : shelf.certificateCount >= MOST_CERTIFICATES) {
-            return NONE;
+        boolean isCertificate = kind == KIND_ANCHOR || kind == KIND_OTHER;
+        if (isCertificate && shelf.certificateCount < MOST_CERTIFICATES) {
+            int fault = new Reader(draft).readCertificate(shelf.nextCertificate());
+            return fault == 0 ? shelf.keepCertificate(kind == KIND_ANCHOR) : FAULTY;
         }
-        Reader reader = new Reader(draft);
-        if (isList) {
-            return reader.readList(shelf.nextList()) == 0 ? shelf.keepList() : FAULTY;
-        }
-        return reader.readCertificate(shelf.nextCertificate()) == 0
-            ? shelf.keepCertificate(kind == KIND_ANCHOR)
-            : FAULTY;
+        return NONE;
     }
 
     public long certificate(int c, int what) {
