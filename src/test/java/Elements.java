@@ -104,6 +104,14 @@ final class Elements {
         return v;
     }
 
+    static String nameText(long name) {
+        StringBuilder text = new StringBuilder();
+        for (long rest = name; rest != 0; rest /= 32) {
+            text.append(rest % 32 == 27 ? '.' : (char) ('a' + rest % 32 - 1));
+        }
+        return text.toString();
+    }
+
     /** The draft becomes the bytes. */
     static void fill(CertificateVault vault, byte[] bytes) {
         vault.clear();

@@ -64,21 +64,42 @@ public final class FaceTest {
         Class<?>[] inside = CertificateVault.class.getDeclaredClasses();
         DUE.isTrue("some twelve classes at most", inside.length <= 12);
         for (Class<?> one : inside) {
-            DUE.isTrue(one + " is private and static",
-                Modifier.isPrivate(one.getModifiers()) && Modifier.isStatic(one.getModifiers()));
-            for (Method method : one.getDeclaredMethods()) {
-                DUE.isTrue(method + " bears a name of its own", !names.contains(method.getName()));
-                DUE.isTrue(method + " has at most seven parameters", method.getParameterCount() <= 7);
-            }
+            DUE.isTrue(one + " is private or package-visible",
+                !Modifier.isPublic(one.getModifiers()) && !Modifier.isProtected(one.getModifiers()));
+            DUE.isTrue(one + " is static", Modifier.isStatic(one.getModifiers()));
+            methodsOf(one, names);
+            fieldsOf(one);
+        }
+        methodsOf(CertificateVault.class, names);
+        fieldsOf(CertificateVault.class);
+    }
+
+    private static void methodsOf(Class<?> one, Set<String> publicNames) {
+        for (Method method : one.getDeclaredMethods()) {
+            boolean ownName = !Modifier.isPrivate(method.getModifiers()) || !publicNames.contains(method.getName());
+            DUE.isTrue(method + " bears a name of its own", ownName);
+            DUE.isTrue(method + " has at most seven parameters", method.getParameterCount() <= 7);
         }
     }
 
+    private static void fieldsOf(Class<?> one) {
+        int fields = 0;
+        for (Field field : one.getDeclaredFields()) {
+            boolean isStatic = Modifier.isStatic(field.getModifiers());
+            DUE.isTrue(field + " is final if it is static", !isStatic || Modifier.isFinal(field.getModifiers()));
+            fields += isStatic ? 0 : 1;
+        }
+        DUE.isTrue(one + " has some twenty fields at most", fields <= 20);
+    }
+
+    /** What LANGUAGE.md bars by a word that can be seen. */
     private static void words() throws IOException {
         String source = Files.readString(Path.of("src/main/java/CertificateVault.java"));
         String code = source.replaceAll("(?s)/\\*.*?\\*/|//[^\\n]*", "");
-        String[] barred = {"\\bimport\\b", "->", "::", "Exact\\b", "\\bthrow\\b", "\\btry\\b", "\\bfinally\\b",
-            "\\bsynchronized\\b", "\\bassert\\b", "\\bjava\\.", "\\bhashCode\\b", "\\btoString\\b", "\\bObject\\b",
-            "\\bSystem\\.(?!arraycopy)"};
+        String[] barred = {"\\bpackage\\b", "::", "\\)\\s*->", "Exact\\b", "\\bfinally\\b", "\\bsynchronized\\b",
+            "\\bassert\\b", "\\bhashCode\\b", "\\bgetMessage\\b", "\\bThread\\b", "\\bRandom\\b", "\\brandom\\b",
+            "\\bSystem\\.(?!arraycopy)", "\\bstatic\\s*\\{",
+            "\\bimport\\s+(?!java\\.util\\.(ArrayList|List|Arrays|Iterator|NoSuchElementException);)"};
         for (String word : barred) {
             DUE.isTrue("the program does without " + word, !Pattern.compile(word).matcher(code).find());
         }
@@ -102,7 +123,7 @@ public final class FaceTest {
 
     private static int dearestCalls(CertificateVault x) {
         int sum = 0;
-        for (int k = 0; k < 100; k++) {
+        for (int k = 0; k < 90; k++) {
             sum += x.validate(11, 5, 5, true);
             sum += x.check(true) + x.check(false) + x.store(1) + x.compose();
         }
@@ -119,7 +140,7 @@ public final class FaceTest {
         long made = threads.getThreadAllocatedBytes(thread);
         dearestCalls(x);
         long called = threads.getThreadAllocatedBytes(thread);
-        DUE.isTrue("a new object takes little room: " + (made - before), made - before < 20000);
-        DUE.isTrue("500 calls take little room: " + (called - made), called - made < 100000);
+        DUE.isTrue("a new object takes little room: " + (made - before), made - before < 100000);
+        DUE.isTrue("450 calls take little room: " + (called - made), called - made < 1000000);
     }
 }

@@ -158,48 +158,84 @@ public final class ModelTest {
         }
     }
 
+    private static byte[] extensionsOf(long[] f) {
+        byte[] all = new byte[0];
+        if (f[6] >= 0) {
+            byte[] reach = f[7] >= 0 ? Elements.integer(f[7]) : new byte[0];
+            byte[] value = f[6] == 1 ? Elements.sequence(Elements.flag(), reach) : Elements.sequence();
+            all = Elements.sequence(Elements.integer(1), Elements.flag(), value);
+        }
+        if (f[8] > 0) {
+            all = Elements.join(all, Elements.sequence(Elements.integer(2), Elements.flag(), Elements.integer(f[8])));
+        }
+        if (f[9] != 0 || f[10] != 0) {
+            byte[] allowed = f[9] != 0 ? Elements.text(128, Elements.nameText(f[9])) : new byte[0];
+            byte[] barred = f[10] != 0 ? Elements.text(129, Elements.nameText(f[10])) : new byte[0];
+            all = Elements.join(all,
+                Elements.sequence(Elements.integer(3), Elements.flag(), Elements.sequence(allowed, barred)));
+        }
+        if (f[11] > 0) {
+            byte[] critical = f[11] == 2 ? Elements.flag() : new byte[0];
+            all = Elements.join(all, Elements.sequence(Elements.integer(9), critical, Elements.element(4)));
+        }
+        return all.length == 0 ? all : Elements.sequence(all);
+    }
+
+    /** The certificate of a template, written apart from the tool. */
+    private static byte[] certificateOf(long[] f) {
+        byte[] body = Elements.sequence(Elements.integer(f[0]), Elements.name(Elements.nameText(f[1])),
+            Elements.integer(f[2]), Elements.integer(f[3]), Elements.name(Elements.nameText(f[4])),
+            Elements.integer(Elements.MODULI[(int) f[5]]), Elements.integer(Elements.EXPONENTS[(int) f[5]]), extensionsOf(f));
+        return Elements.signed((int) f[12], body);
+    }
+
     private static void storeCertificate(Random random, CertificateVault x, Model model, int names, boolean oneKey, boolean anchor) {
         int issuer = random.nextInt(names);
         int subject = random.nextInt(names);
-        x.set(0, random.nextInt(4));
-        x.set(1, Elements.nameValue(NAMES[issuer]));
-        x.set(2, pick(random, 0, 5, 10));
-        x.set(3, pick(random, 100, 10, 20));
-        x.set(4, Elements.nameValue(NAMES[subject]));
-        x.set(5, oneKey ? 0 : pick(random, subject, 0, 1, 2));
-        x.set(6, pick(random, 1, 1, 1, 0, -1));
-        x.set(7, pick(random, -1, 0, 0, 1, 2));
-        x.set(8, pick(random, -1, 3, 7, 1, 2, 4));
-        x.set(9, pick(random, 0, 0, 0, Elements.nameValue("a"), Elements.nameValue("b")));
-        x.set(10, pick(random, 0, 0, 0, Elements.nameValue("c.a"), Elements.nameValue("b.b")));
-        x.set(11, pick(random, 0, 1, 1, 2));
-        x.set(12, oneKey ? 0 : pick(random, issuer, issuer, 0, 1));
+        long[] fields = {random.nextInt(4), Elements.nameValue(NAMES[issuer]), pick(random, 0, 5, 10),
+            pick(random, 100, 10, 20), Elements.nameValue(NAMES[subject]), oneKey ? 0 : pick(random, subject, 0, 1, 2),
+            pick(random, 1, 1, 1, 0, -1), pick(random, -1, 0, 0, 1, 2), pick(random, -1, 3, 7, 1, 2, 4),
+            pick(random, 0, 0, 0, Elements.nameValue("a"), Elements.nameValue("b")),
+            pick(random, 0, 0, 0, Elements.nameValue("c.a"), Elements.nameValue("b.b")), pick(random, 0, 1, 1, 2),
+            oneKey ? 0 : pick(random, issuer, issuer, 0, 1)};
+        for (int field = 0; field < fields.length; field++) {
+            x.set(field, fields[field]);
+        }
         x.compose();
-        Model.Certificate read = Model.readCertificate(Elements.draft(x));
+        Model.Certificate read = Model.readCertificate(certificateOf(fields));
         read.anchor = anchor;
         model.certificates.add(read);
         int number = model.certificates.size() - 1;
         DUE.is("store", x.store(anchor ? 0 : 1), number);
-        tells(x, number, read, null);
+        for (int what : new int[] {7, 8, 14, random.nextInt(15)}) {
+            DUE.is("certificate(" + number + ", " + what + ")", x.certificate(number, what), read.tell(what));
+        }
     }
 
     private static void storeList(Random random, CertificateVault x, Model model, int names, boolean oneKey) {
         int issuer = random.nextInt(names);
+        int signer = oneKey ? 0 : (int) pick(random, issuer, 0, 1);
+        long from = pick(random, 0, 5, 10);
+        long to = pick(random, 100, 10, 20);
         x.set(1, Elements.nameValue(NAMES[issuer]));
-        x.set(2, pick(random, 0, 5, 10));
-        x.set(3, pick(random, 100, 10, 20));
-        x.set(12, oneKey ? 0 : pick(random, issuer, 0, 1));
+        x.set(2, from);
+        x.set(3, to);
+        x.set(12, signer);
         x.forgive();
-        for (int k = random.nextInt(3); k > 0; k--) {
-            x.revoke(random.nextInt(4), 5 * random.nextInt(6));
+        byte[][] entries = new byte[random.nextInt(3)][];
+        for (int k = 0; k < entries.length; k++) {
+            long serial = random.nextInt(4);
+            long date = 5 * random.nextInt(6);
+            x.revoke(serial, date);
+            entries[k] = Elements.entry(serial, date);
         }
         x.composeList();
         boolean room = model.lists.size() < 6;
         int number = model.lists.size();
         DUE.is("store(2)", x.store(2), room ? number : -1);
         if (room) {
-            model.lists.add(Model.readList(Elements.draft(x)));
-            tells(x, number, null, model.lists.get(number));
+            model.lists.add(Model.readList(Elements.signed(signer, Elements.listBody(NAMES[issuer], from, to, entries))));
+            DUE.is("list(" + number + ", 5)", x.list(number, 5), model.lists.get(number).tell(5));
         }
     }
 
@@ -212,8 +248,8 @@ public final class ModelTest {
         DUE.is("validate(" + target + ", " + time + ", " + depth + ", " + strictly + ")",
             x.validate(target, time, depth, strictly), want);
         DUE.is("candidates()", x.candidates(), model.candidates);
-        for (int k = -1; k <= 5; k++) {
-            boolean there = k >= 0 && k < model.chain.size();
+        for (int k = 0; k <= 5; k++) {
+            boolean there = k < model.chain.size();
             DUE.is("chain(" + k + ")", x.chain(k), there ? model.chain.get(k) : -1);
         }
         if (want > 0) {

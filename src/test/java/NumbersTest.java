@@ -152,9 +152,9 @@ public final class NumbersTest {
     }
 
     private static void anyPowers() {
-        CertificateVault x = new CertificateVault();
         Random random = new Random(2);
         for (int k = 0; k < 2000; k++) {
+            CertificateVault x = new CertificateVault();
             long p = LEAST + (random.nextLong() & (MOST >> 1)) | 1;
             p = Math.min(p, MOST);
             long e = 3 + random.nextInt(Integer.MAX_VALUE - 2);

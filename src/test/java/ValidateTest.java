@@ -1,16 +1,6 @@
 /** Promises 15 to 17: validate, chain, candidates. */
-public final class ValidateTest {
+public final class ValidateTest extends Maker {
     private static final Due DUE = new Due("ValidateTest");
-
-    private static final int SERIAL = 0;
-    private static final int FROM = 2;
-    private static final int TO = 3;
-    private static final int BASIC = 6;
-    private static final int REACH = 7;
-    private static final int USAGE = 8;
-    private static final int ALLOWED = 9;
-    private static final int BARRED = 10;
-    private static final int STRANGE = 11;
 
     public static void main(String[] args) {
         refusals();
@@ -41,42 +31,6 @@ public final class ValidateTest {
         DUE.end();
     }
 
-    private static long name(String text) {
-        return Elements.nameValue(text);
-    }
-
-    /** Makes and stores a certificate; of pairs of a field and a value those that are not as at first. */
-    private static int make(CertificateVault x, int kind, String names, int key, int signer, long... pairs) {
-        long[] first = {1, 1, 0, 1000, 1, 0, -1, -1, -1, 0, 0, 0, 0};
-        for (int field = 0; field < first.length; field++) {
-            x.set(field, first[field]);
-        }
-        String[] both = names.split(">");
-        x.set(1, name(both[0]));
-        x.set(4, name(both[1]));
-        x.set(5, key);
-        x.set(12, signer);
-        for (int k = 0; k < pairs.length; k += 2) {
-            x.set((int) pairs[k], pairs[k + 1]);
-        }
-        x.compose();
-        return x.store(kind);
-    }
-
-    /** Makes and stores a list; the pairs are serials and dates. */
-    private static int makeList(CertificateVault x, String issuer, int signer, long from, long to, long... pairs) {
-        x.set(1, name(issuer));
-        x.set(12, signer);
-        x.set(2, from);
-        x.set(3, to);
-        x.forgive();
-        for (int k = 0; k < pairs.length; k += 2) {
-            x.revoke(pairs[k], pairs[k + 1]);
-        }
-        x.composeList();
-        return x.store(2);
-    }
-
     private static void is(String what, CertificateVault x, int got, int want, int... chain) {
         DUE.is(what, got, want);
         for (int k = 0; k < chain.length; k++) {
@@ -95,10 +49,6 @@ public final class ValidateTest {
         make(x, 1, "r>m", 1, 0, middle);
         make(x, 1, "m>t", 2, 1, target);
         return x;
-    }
-
-    private static long[] pairs(long... values) {
-        return values;
     }
 
     private static final long[] PLAIN = {};
