@@ -67,8 +67,10 @@ public final class CallsTest extends Maker {
 
     /** What one call changes it has changed after 300 times: the last answer is the same after 511. */
     private static void everyCallAsTheLast() {
-        CALLS.forEach((first, many) -> CALLS.forEach((second, last) ->
-            DUE.is(second + " after " + first, last.applyAsLong(filled(many, MOST_CALLS - 1)), last.applyAsLong(filled(many, 300)))));
+        CALLS.forEach((first, many) -> CALLS.forEach((second, last) -> {
+            long soon = last.applyAsLong(filled(many, 300));
+            DUE.is(second + " after " + first, last.applyAsLong(filled(many, MOST_CALLS - 1)), soon);
+        }));
     }
 
     private static void bytesPutAndPoked() {

@@ -4,11 +4,14 @@ public final class ComposeTest {
 
     public static void main(String[] args) {
         integers();
+        fromAndTo();
+        names();
         keys();
         eachExtension();
         reachNeedsAuthority();
         longest();
         everyLength();
+        entries();
         lists();
         draftIsReplaced();
         DUE.end();
@@ -32,6 +35,36 @@ public final class ComposeTest {
             CertificateVault x = new CertificateVault();
             x.set(0, v);
             certificateIs("serial " + v, x, Elements.signed(0, Elements.body(v, "a", "a", 0)));
+        }
+    }
+
+    private static void fromAndTo() {
+        long[] values = {0, 127, 128, 32767, 32768, 1L << 55, Long.MAX_VALUE};
+        for (long from : values) {
+            for (long to : values) {
+                CertificateVault x = new CertificateVault();
+                x.set(2, from);
+                x.set(3, to);
+                byte[] body = Elements.sequence(Elements.integer(1), Elements.name("a"), Elements.integer(from),
+                    Elements.integer(to), Elements.name("a"), Elements.integer(Elements.MODULI[0]), Elements.integer(3));
+                certificateIs("from " + from + " to " + to, x, Elements.signed(0, body));
+                byte[] list = Elements.signed(0, Elements.listBody("a", from, to));
+                DUE.is("composeList()", x.composeList(), list.length);
+                DUE.is("a list from " + from + " to " + to, Elements.draft(x), list);
+            }
+        }
+    }
+
+    private static void names() {
+        for (String name : new String[] {"a", "z", "a.z", "abcdefgh", "zzzzzzzz", "a.b.c.de", "q.rstuvw"}) {
+            CertificateVault x = new CertificateVault();
+            x.set(1, Elements.nameValue(name));
+            certificateIs("issuer " + name, x, Elements.signed(0, Elements.body(1, name, "a", 0)));
+            x.composeList();
+            DUE.is("a list of " + name, Elements.draft(x), Elements.signed(0, Elements.listBody(name, 0, 1000)));
+            x.set(1, 1);
+            x.set(4, Elements.nameValue(name));
+            certificateIs("subject " + name, x, Elements.signed(0, Elements.body(1, "a", name, 0)));
         }
     }
 
@@ -79,6 +112,13 @@ public final class ComposeTest {
         x.set(6, 1);
         certificateIs("reach", x, Elements.signed(0, Elements.body(1, "a", "a", 0,
             extension(1, true, Elements.sequence(Elements.flag(), Elements.integer(3))))));
+        for (int reach = 0; reach <= 9; reach++) {
+            CertificateVault y = new CertificateVault();
+            y.set(6, 1);
+            y.set(7, reach);
+            certificateIs("reach " + reach, y, Elements.signed(0, Elements.body(1, "a", "a", 0,
+                extension(1, true, Elements.sequence(Elements.flag(), Elements.integer(reach))))));
+        }
     }
 
     private static void longest() {
@@ -134,6 +174,24 @@ public final class ComposeTest {
             }
         }
         DUE.is("certificates with a content of 127 and of 128 bytes", found, 3);
+    }
+
+    /** The serials to be revoked go with the list alone, in their order; 0 to 4 of them. */
+    private static void entries() {
+        long[][] pairs = {{3, 200}, {1, 0}, {3, 200}, {2, 1L << 40}};
+        for (int count = 0; count <= 4; count++) {
+            CertificateVault x = new CertificateVault();
+            byte[][] entries = new byte[count][];
+            for (int k = 0; k < count; k++) {
+                x.revoke(pairs[k][0], pairs[k][1]);
+                entries[k] = Elements.entry(pairs[k][0], pairs[k][1]);
+            }
+            byte[] want = Elements.signed(0, Elements.listBody("a", 0, 1000, entries));
+            DUE.is("composeList() of " + count, x.composeList(), want.length);
+            DUE.is("a list of " + count, Elements.draft(x), want);
+            certificateIs("a certificate with " + count, x, Elements.signed(0, Elements.body(1, "a", "a", 0)));
+            DUE.is("composeList() again", x.composeList(), want.length);
+        }
     }
 
     private static void lists() {

@@ -8,10 +8,12 @@ public final class DraftTest {
         putting();
         fullDraft();
         poking();
+        asking();
         clearing();
         DUE.end();
     }
 
+    /** "An empty store and draft" */
     private static void newObject() {
         CertificateVault x = new CertificateVault();
         DUE.is("NONE", CertificateVault.NONE, -1);
@@ -24,6 +26,7 @@ public final class DraftTest {
         DUE.is("candidates() before any validate", x.candidates(), 0);
     }
 
+    /** "the template of the tool has the fields 1, a, 0, 1000, a, 0, -1, -1, -1, 0, 0, 0, 0, and no serials to be revoked" */
     private static void newTemplate() {
         CertificateVault x = new CertificateVault();
         x.compose();
@@ -39,6 +42,7 @@ public final class DraftTest {
             Elements.signed(0, Elements.body(1, "a", "a", 0, basic)));
     }
 
+    /** "Appends a byte to the draft: true; refused (false) when b is not 0 .. 255" */
     private static void putting() {
         CertificateVault x = new CertificateVault();
         DUE.is("put(0)", x.put(0), true);
@@ -56,6 +60,7 @@ public final class DraftTest {
         DUE.is("at(MAX)", x.at(Integer.MAX_VALUE), -1);
     }
 
+    /** "or 200 are there" */
     private static void fullDraft() {
         CertificateVault x = new CertificateVault();
         for (int k = 0; k < 200; k++) {
@@ -70,6 +75,7 @@ public final class DraftTest {
         DUE.is("at(199) after poke", x.at(199), 3);
     }
 
+    /** "Byte k of the draft becomes b: true; refused (false) when there is no byte k or b is not 0 .. 255." */
     private static void poking() {
         CertificateVault x = new CertificateVault();
         DUE.is("poke in an empty draft", x.poke(0, 1), false);
@@ -87,6 +93,24 @@ public final class DraftTest {
         DUE.is("at(-1)", x.at(-1), 2);
     }
 
+    /** "Byte k of the draft; for k = -1 how many there are; otherwise NONE." */
+    private static void asking() {
+        CertificateVault x = new CertificateVault();
+        for (int size = 0; size <= 200; size += 50) {
+            DUE.is("at(-1) of " + size, x.at(-1), size);
+            DUE.is("at(" + (size - 1) + ") of " + size, x.at(size - 1), size == 0 ? 0 : (size - 1) % 50);
+            DUE.is("at(" + size + ") of " + size, x.at(size), -1);
+            DUE.is("at(-2) of " + size, x.at(-2), -1);
+            for (int k = 0; k < 50; k++) {
+                x.put(k);
+            }
+        }
+        x.clear();
+        DUE.is("at(199) of a draft that was full", x.at(199), -1);
+        DUE.is("at(0) of a draft that was full", x.at(0), -1);
+    }
+
+    /** "The draft is empty." */
     private static void clearing() {
         CertificateVault x = new CertificateVault();
         x.clear();

@@ -189,7 +189,8 @@ public final class ModelTest {
         return Elements.signed((int) f[12], body);
     }
 
-    private static void storeCertificate(Random random, CertificateVault x, Model model, int names, boolean oneKey, boolean anchor) {
+    private static void storeCertificate(Random random, CertificateVault x, Model model, int names, boolean oneKey,
+            boolean anchor) {
         int issuer = random.nextInt(names);
         int subject = random.nextInt(names);
         long[] fields = {random.nextInt(4), Elements.nameValue(NAMES[issuer]), pick(random, 0, 5, 10),

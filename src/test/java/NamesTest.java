@@ -3,6 +3,7 @@ public final class NamesTest {
     private static final Due DUE = new Due("NamesTest");
     private static final int DOT = 27;
     private static final int[] FIELDS = {1, 4, 9, 10};
+    private static final int[] TAGS = {19, 19, 19, 128, 129};
 
     public static void main(String[] args) {
         oneToEightCharacters();
@@ -30,8 +31,6 @@ public final class NamesTest {
             read(Elements.text(TAGS[place], name), place, want);
         }
     }
-
-    private static final int[] TAGS = {19, 19, 19, 128, 129};
 
     /** Reads a name as 0 an issuer, 1 a subject, 2 the issuer of a list, 3 ALLOWED, 4 BARRED. */
     private static void read(byte[] name, int place, boolean want) {

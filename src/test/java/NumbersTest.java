@@ -17,6 +17,7 @@ public final class NumbersTest {
         DUE.end();
     }
 
+    /** "The signature of an int with a key of the tool": "h & 4294967295 ..., with h as a long" */
     private static void signing() {
         CertificateVault x = new CertificateVault();
         Random random = new Random(1);
@@ -27,6 +28,7 @@ public final class NumbersTest {
         }
     }
 
+    /** "NONE when there is no such key." */
     private static void wrongKeys() {
         CertificateVault x = new CertificateVault();
         for (int key : new int[] {-1, 6, 7, Integer.MIN_VALUE, Integer.MAX_VALUE}) {
@@ -34,6 +36,7 @@ public final class NumbersTest {
         }
     }
 
+    /** "Whether a signature is good", "s is less than n", "false when one of the longs is negative" */
     private static void goodSignatures() {
         CertificateVault x = new CertificateVault();
         for (int key = 0; key < 6; key++) {
@@ -68,6 +71,7 @@ public final class NumbersTest {
         DUE.is("good(" + root + ", " + n + ", " + e + ", 99)", new CertificateVault().good(root, n, e, 99), want);
     }
 
+    /** "2^57 .. 2^62 - 1", "e is 3 .. 2^31 - 1": primes next to the bounds. */
     private static void edges() {
         long[] exponents = {3, 5, 65537, (1L << 31) - 1};
         for (long e : exponents) {
@@ -108,6 +112,7 @@ public final class NumbersTest {
             new CertificateVault().good(root, modulus, e, 99), want);
     }
 
+    /** The bounds themselves and the numbers just beyond them, by their factors. */
     private static void exactEdges() {
         composite(MOST, 65537, true, 3, 715827883, 2147483647);
         composite(MOST + 2, 65537, false, 5, 5581, 8681, 49477, 384773);

@@ -11,10 +11,12 @@ public final class StoreTest {
         handWritten();
         leftOvers();
         listFields();
+        storedOnesStay();
         wrongQuestions();
         DUE.end();
     }
 
+    /** "kind = 0 a certificate that is an anchor, 1 another certificate, 2 a list", "NONE when kind is none of these" */
     private static void kinds() {
         CertificateVault x = new CertificateVault();
         DUE.is("store(0) of nothing", x.store(0), -2);
@@ -40,6 +42,7 @@ public final class StoreTest {
         DUE.is("certificate(2, 0)", x.certificate(2, 0), -1);
     }
 
+    /** "at most 12 CERTIFICATES, numbered from 0 as they are stored", "at most 6 LISTS", "NONE when ... there is no room" */
     private static void room() {
         CertificateVault x = new CertificateVault();
         for (int k = 0; k < 12; k++) {
@@ -72,6 +75,7 @@ public final class StoreTest {
         DUE.is("list(6, 1)", x.list(6, 1), -1);
     }
 
+    /** "NONE when kind is none of these or there is no room; otherwise -2 when it has a fault" */
     private static void faultsAndRoom() {
         CertificateVault x = new CertificateVault();
         for (int k = 0; k < 12; k++) {
@@ -89,6 +93,7 @@ public final class StoreTest {
         }
     }
 
+    /** Promise 13, each number when all is there. */
     private static void certificateFields() {
         CertificateVault x = new CertificateVault();
         long name = Elements.nameValue("abcdefgh");
@@ -107,6 +112,7 @@ public final class StoreTest {
             Elements.nameValue("b"), Elements.nameValue("c.b"), 4, 7, -1);
     }
 
+    /** "(NONE without one)", "(0 without)", "whether it is an anchor, + 2 ..., + 4 ..." */
     private static void certificateWithout() {
         CertificateVault x = new CertificateVault();
         x.compose();
@@ -178,6 +184,7 @@ public final class StoreTest {
         DUE.is("list(0, 3)", x.list(0, 3), 0);
     }
 
+    /** Promise 14, each number of lists of 0 to 4 serials. */
     private static void listFields() {
         CertificateVault x = new CertificateVault();
         x.set(1, Elements.nameValue("ab"));
@@ -198,6 +205,47 @@ public final class StoreTest {
         }
     }
 
+    /** What is stored stays as it was when the draft, the template or the serials become others. */
+    private static void storedOnesStay() {
+        CertificateVault x = new CertificateVault();
+        x.set(6, 1);
+        x.set(8, 3);
+        x.compose();
+        x.store(0);
+        x.revoke(5, 6);
+        x.composeList();
+        x.store(2);
+        long[] certificate = new long[15];
+        long[] list = new long[6];
+        for (int what = 0; what < 15; what++) {
+            certificate[what] = x.certificate(0, what);
+        }
+        for (int what = 0; what < 6; what++) {
+            list[what] = x.list(0, what);
+        }
+        for (int field = 0; field < 13; field++) {
+            x.set(field, 2);
+        }
+        x.forgive();
+        x.revoke(1, 2);
+        x.revoke(3, 4);
+        x.composeList();
+        x.check(false);
+        x.compose();
+        x.check(true);
+        x.store(1);
+        for (int k = 0; k < 60; k++) {
+            x.poke(k, 7);
+        }
+        x.clear();
+        tells(x, 0, certificate);
+        for (int what = 0; what < 6; what++) {
+            DUE.is("list(0, " + what + ")", x.list(0, what), list[what]);
+        }
+        DUE.is("the second one's serial", x.certificate(1, 0), 2);
+    }
+
+    /** "NONE when there is none or what is none of these." */
     private static void wrongQuestions() {
         CertificateVault x = new CertificateVault();
         x.compose();

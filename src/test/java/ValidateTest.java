@@ -17,6 +17,7 @@ public final class ValidateTest extends Maker {
         strangeExtensions();
         authorities();
         reaches();
+        notCritical();
         usages();
         firstReason();
         searchOrder();
@@ -54,6 +55,7 @@ public final class ValidateTest extends Maker {
     private static final long[] PLAIN = {};
     private static final long[] AUTHORITY = {BASIC, 1};
 
+    /** "NONE (refused) when there is no such certificate, time is less than 0, or depth not 1 .. 5." */
     private static void refusals() {
         CertificateVault x = three(PLAIN, AUTHORITY, PLAIN);
         DUE.is("target -1", x.validate(-1, 5, 3, false), -1);
@@ -71,6 +73,7 @@ public final class ValidateTest extends Maker {
         DUE.is("candidates()", x.candidates(), 1);
     }
 
+    /** "A CANDIDATE of one certificate holds." */
     private static void lonelyAnchor() {
         CertificateVault x = new CertificateVault();
         make(x, 0, "q>r", 0, 3, TO, 10, FROM, 5, STRANGE, 2, USAGE, 4);
@@ -80,6 +83,7 @@ public final class ValidateTest extends Maker {
         }
     }
 
+    /** "0 when there was no candidate" */
     private static void noCandidate() {
         CertificateVault x = new CertificateVault();
         make(x, 0, "r>r", 0, 0);
@@ -90,6 +94,7 @@ public final class ValidateTest extends Maker {
         DUE.is("candidates()", x.candidates(), 0);
     }
 
+    /** "1 its signature isn't good for its issuer's modulus and exponent and the hash of its body" */
     private static void signatures() {
         CertificateVault x = new CertificateVault();
         make(x, 0, "r>r", 0, 0);
@@ -110,6 +115,7 @@ public final class ValidateTest extends Maker {
         is("a signature not below the modulus", x, x.validate(tooGreat, 5, 2, false), -11);
     }
 
+    /** "2 the time is not FROM .. TO" */
     private static void times() {
         CertificateVault x = three(pairs(FROM, 40, TO, 41), pairs(BASIC, 1, FROM, 10, TO, 20), pairs(FROM, 12, TO, 15));
         is("before the middle's FROM", x, x.validate(2, 9, 3, false), -12);
@@ -126,6 +132,7 @@ public final class ValidateTest extends Maker {
         is("FROM after TO", z, z.validate(2, 8, 3, false), -12);
     }
 
+    /** "3 it is REVOKED; 4 (only if asked strictly) it is UNKNOWN whether it is" */
     private static void revoked() {
         CertificateVault x = three(PLAIN, pairs(BASIC, 1, SERIAL, 7), pairs(SERIAL, 9));
         makeList(x, "m", 1, 0, 1000, 8, 0, 7, 0, 9, 60, 9, 50);
@@ -193,6 +200,7 @@ public final class ValidateTest extends Maker {
         return x.validate(2, 5, 3, false);
     }
 
+    /** "5 its subject is not within the ALLOWED, or is within the BARRED, of the REALM of a certificate between" */
     private static void realms() {
         long[] allowed = {BASIC, 1, ALLOWED, name("b.c")};
         DUE.is("the realms of anchor and target alone", realm(AUTHORITY, "t"), 3);
@@ -221,6 +229,7 @@ public final class ValidateTest extends Maker {
         DUE.is("all eight", realm(pairs(BASIC, 1, ALLOWED, name("abcdefgh")), "abcdefgh"), 3);
     }
 
+    /** "(not of the anchor's, not of its own)" */
     private static void realmsOfTheMiddle() {
         CertificateVault x = new CertificateVault();
         make(x, 0, "r>r", 0, 0);
@@ -240,6 +249,7 @@ public final class ValidateTest extends Maker {
         return Elements.sequence(Elements.integer(id), flag, Elements.element(4));
     }
 
+    /** "6 it has a critical extension with another id than 1, 2, 3" */
     private static void strangeExtensions() {
         CertificateVault x = three(pairs(STRANGE, 2), pairs(BASIC, 1, STRANGE, 1), pairs(STRANGE, 1));
         is("a critical one of the anchor alone", x, x.validate(2, 5, 3, false), 3, 0, 1, 2);
@@ -247,9 +257,11 @@ public final class ValidateTest extends Maker {
         is("a critical one of the middle", y, y.validate(2, 5, 3, false), -16);
         CertificateVault z = three(PLAIN, AUTHORITY, pairs(STRANGE, 2));
         is("a critical one of the target", z, z.validate(2, 5, 3, false), -16);
-        byte[][][] rows = {{extension(0, true)}, {extension(4, true), extension(5, false)}, {extension(4, false), extension(5, true)},
-            {extension(0, false), extension(Long.MAX_VALUE, true)}, {extension(0, false), extension((1L << 32) + 1, false)}};
-        int[] due = {-16, -16, -16, -16, 2};
+        byte[][][] rows = {{extension(0, true)}, {extension(4, true), extension(5, false)},
+            {extension(4, false), extension(5, true)}, {extension(0, false), extension(Long.MAX_VALUE, true)},
+            {extension(0, false), extension((1L << 32) + 1, false)},
+            {extension((1L << 32) + 1, true)}, {extension((1L << 32) + 2, true)}, {extension((1L << 32) + 3, true)}};
+        int[] due = {-16, -16, -16, -16, 2, -16, -16, -16};
         for (int k = 0; k < rows.length; k++) {
             CertificateVault v = new CertificateVault();
             make(v, 0, "r>r", 0, 0);
@@ -259,6 +271,7 @@ public final class ValidateTest extends Maker {
         }
     }
 
+    /** "7 it has no BASIC, or is no authority" */
     private static void authorities() {
         CertificateVault x = three(PLAIN, PLAIN, PLAIN);
         is("without a BASIC", x, x.validate(2, 5, 3, false), -17);
@@ -279,6 +292,7 @@ public final class ValidateTest extends Maker {
         return x.validate(4, 5, 5, false);
     }
 
+    /** "8 there are more certificates between it and the target ... than the REACH of its BASIC" */
     private static void reaches() {
         DUE.is("no reaches", reach(-1, -1, -1), 5);
         DUE.is("just enough", reach(2, 1, 0), 5);
@@ -298,6 +312,37 @@ public final class ValidateTest extends Maker {
         is("one that is not self-issued is", x, x.validate(5, 5, 5, false), -18);
     }
 
+    private static byte[] plain(long id, byte[] value) {
+        return Elements.sequence(Elements.integer(id), value);
+    }
+
+    private static int written(byte[]... extensions) {
+        CertificateVault x = new CertificateVault();
+        make(x, 0, "r>r", 0, 0);
+        Elements.fill(x, Elements.signed(0, Elements.body(1, "r", "m", 1, extensions)));
+        DUE.is("store(1)", x.store(1), 1);
+        make(x, 1, "m>n", 2, 1, BASIC, 1);
+        make(x, 1, "n>t", 3, 2);
+        return x.validate(3, 5, 4, false);
+    }
+
+    /** Of BASIC, USAGE and REALM it says nothing whether they are critical; a REACH may be any number. */
+    private static void notCritical() {
+        byte[] basic = plain(1, Elements.sequence(Elements.flag()));
+        DUE.is("a BASIC that is not critical", written(basic), 4);
+        DUE.is("no authority, not critical", written(plain(1, Elements.sequence())), -17);
+        DUE.is("a USAGE that is not critical", written(basic, plain(2, Elements.integer(1))), 4);
+        DUE.is("a wrong USAGE that is not critical", written(basic, plain(2, Elements.integer(6))), -19);
+        DUE.is("a BARRED that is not critical", written(basic, plain(3, Elements.sequence(Elements.text(129, "t")))), -15);
+        DUE.is("an ALLOWED that is not critical", written(basic, plain(3, Elements.sequence(Elements.text(128, "n")))), -15);
+        long[] reaches = {0, 1, 2, 127, 128, 1L << 31, 1L << 32, 1L << 62, Long.MAX_VALUE};
+        for (long reach : reaches) {
+            byte[] far = plain(1, Elements.sequence(Elements.flag(), Elements.integer(reach)));
+            DUE.is("a REACH of " + reach, written(far), reach == 0 ? -18 : 4);
+        }
+    }
+
+    /** "9 it has a USAGE without the bit of value 1" */
     private static void usages() {
         for (int usage = 1; usage <= 7; usage++) {
             CertificateVault x = three(pairs(USAGE, 2), pairs(BASIC, 1, USAGE, usage), pairs(USAGE, 2));
@@ -418,6 +463,7 @@ public final class ValidateTest extends Maker {
         DUE.is("candidates()", x.candidates(), 1);
     }
 
+    /** "a chain of at most depth certificates", "Certificate k (0 the anchor) of the chain" */
     private static void depths() {
         CertificateVault x = new CertificateVault();
         make(x, 0, "r>r", 0, 0);
@@ -457,6 +503,7 @@ public final class ValidateTest extends Maker {
         forty(4, -11);
     }
 
+    /** "the chain that the latest validate answered with", "the latest validate had that was not refused" */
     private static void refusedValidateChangesNothing() {
         CertificateVault x = three(PLAIN, AUTHORITY, PLAIN);
         x.validate(2, 5, 3, false);
