@@ -31,6 +31,7 @@ public final class FaultsTest {
                 noSecondLengthByte(form, node.what);
                 wrongSecondLengthByte(form, node.what);
                 fewerBytesThanTheLength(form, node.what);
+                notWithinTheOneAround(form, node.what);
                 wrongContent(form, node.what);
                 moreInASequence(form, node.what);
             }
@@ -198,6 +199,37 @@ public final class FaultsTest {
         "a\u00ae", "\u00ff"};
     private static final String[] NAMES = {"a", "z", "m", "az", "a.z", "a.b.c", "abcdefgh", "a.b.c.de", "zzzzzzzz", "a.zzzzzz",
         "aaaaaa.a"};
+
+    /** "An element must lie within the one around it": that one ends in it, and its rest stands right behind. */
+    private static void notWithinTheOneAround(int form, String what) {
+        byte[] whole = make(form).find(what).bytes();
+        for (int inside = 1; inside < whole.length; inside++) {
+            Node node = make(form).find(what).become(Arrays.copyOf(whole, inside)).last();
+            behindTheOneAround(node, Arrays.copyOfRange(whole, inside, whole.length));
+            check(inside + " bytes inside", form, node, END);
+        }
+        Node node = make(form).find(what).become().last();
+        behindTheOneAround(node, whole);
+        if (what.equals("ALLOWED")) {
+            check("ALLOWED behind it", form, node.parent(), CONTENT);
+        } else if (node.parent() != null) {
+            check("behind the one around", form, node, kindOfWhatStandsBehind(what));
+        }
+    }
+
+    private static void behindTheOneAround(Node node, byte[] rest) {
+        if (node.parent() != null) {
+            node.parent().before(rest);
+        }
+    }
+
+    /** What must be there is not, and what may be missing is more than there should be in the one around. */
+    private static int kindOfWhatStandsBehind(String what) {
+        if (what.equals("EXTENSIONS")) {
+            return TAG;
+        }
+        return MAY_BE_MISSING.contains(what) && !what.startsWith("CRITICAL") ? MORE : END;
+    }
 
     /** "4 CONTENT: the content of an INTEGER, TRUE, NAME, ALLOWED or BARRED isn't as said (nor its number of bytes)" */
     private static void wrongContent(int form, String what) {

@@ -10,6 +10,7 @@ final class Node {
     private final List<Node> kids = new ArrayList<>();
     private Node parent = null;
     private byte[] instead = null;
+    private byte[] behind = new byte[0];
     private boolean endsParent = false;
 
     private Node(String what, int tag, byte[] content) {
@@ -75,6 +76,16 @@ final class Node {
         return this;
     }
 
+    Node parent() {
+        return parent;
+    }
+
+    /** These bytes are written behind the element, in the one around it. */
+    Node before(byte[] bytes) {
+        behind = bytes;
+        return this;
+    }
+
     byte[] content() {
         byte[] all = content;
         for (Node kid : kids) {
@@ -87,7 +98,7 @@ final class Node {
     }
 
     byte[] bytes() {
-        return instead != null ? instead : Elements.element(tag, content());
+        return Elements.join(instead != null ? instead : Elements.element(tag, content()), behind);
     }
 
     /** The place of its tag in the draft. */

@@ -156,21 +156,35 @@ public final class NumbersTest {
         DUE.is("even moduli for which only the evenness is wrong", even, 20);
     }
 
+    /** The next prime at or behind an odd number, or before it, with a random exponent. */
+    private static void anyPower(Random random, long start, int step) {
+        long p = start;
+        long e = 3 + random.nextInt(Integer.MAX_VALUE - 2);
+        while (!big(p).isProbablePrime(30) || big(p - 1).gcd(big(e)).intValue() != 1) {
+            p += step;
+            e = 3 + random.nextInt(Integer.MAX_VALUE - 2);
+        }
+        DUE.isTrue("a modulus in bounds", p >= LEAST && p <= MOST);
+        CertificateVault x = new CertificateVault();
+        int h = random.nextInt();
+        long s = Elements.block(h).modPow(big(e).modInverse(big(p - 1)), big(p)).longValueExact();
+        DUE.is("good(" + s + ", " + p + ", " + e + ", " + h + ")", x.good(s, p, e, h), true);
+        DUE.is("a wrong signature", x.good(s == 0 ? 1 : s - 1, p, e, h), false);
+    }
+
+    /** Moduli of every size, and those next to a multiple of 2^31, where halves carry the most or the least. */
     private static void anyPowers() {
         Random random = new Random(2);
-        for (int k = 0; k < 2000; k++) {
-            CertificateVault x = new CertificateVault();
-            long p = LEAST + (random.nextLong() & (MOST >> 1)) | 1;
-            p = Math.min(p, MOST);
-            long e = 3 + random.nextInt(Integer.MAX_VALUE - 2);
-            while (!big(p).isProbablePrime(30) || big(p - 1).gcd(big(e)).intValue() != 1) {
-                p = p >= MOST ? LEAST + 1 : p + 2;
-                e = 3 + random.nextInt(Integer.MAX_VALUE - 2);
-            }
-            int h = random.nextInt();
-            long s = Elements.block(h).modPow(big(e).modInverse(big(p - 1)), big(p)).longValueExact();
-            DUE.is("good(" + s + ", " + p + ", " + e + ", " + h + ")", x.good(s, p, e, h), true);
-            DUE.is("a wrong signature", x.good(s == 0 ? 1 : s - 1, p, e, h), false);
+        for (int k = 0; k < 1000; k++) {
+            int bits = 57 + random.nextInt(5);
+            anyPower(random, 1L << bits | random.nextLong() & (1L << bits) - 1 | 1, bits < 61 ? 2 : -2);
+        }
+        for (int k = 0; k < 500; k++) {
+            int bits = 26 + random.nextInt(5);
+            long half = 1L << bits | random.nextLong() & (1L << bits) - 1;
+            anyPower(random, half << 31 | 1, 2);
+            anyPower(random, (half + 1 << 31) - 1, -2);
+            anyPower(random, (1L << 62) - ((1 + random.nextLong(1000)) << 31) + 1, 2);
         }
     }
 }

@@ -1,38 +1,15 @@
-import java.util.ArrayList;
 import java.util.Arrays;
-import java.util.LinkedHashMap;
-import java.util.List;
-import java.util.Map;
 import java.util.function.Function;
-import java.util.function.Supplier;
 
 /**
  * "A call that is refused changes nothing." Each refused call is made on an object of each state, and
  * all that later calls show is compared with what they show on an object without that call. So are
- * the calls that only answer.
+ * the calls that only answer, and of the others all that they must leave alone.
  */
-public final class RefusedTest extends Maker {
+public final class RefusedTest extends Shown {
     private static final Due DUE = new Due("RefusedTest");
 
-    private static final Map<String, Supplier<CertificateVault>> STATES = new LinkedHashMap<>();
-    private static final Map<String, Function<CertificateVault, List<Long>>> SHOWN = new LinkedHashMap<>();
-    private static final Map<String, List<Long>> DUE_TO_SHOW = new LinkedHashMap<>();
-
     public static void main(String[] args) {
-        STATES.put("a new object", CertificateVault::new);
-        STATES.put("a used object", RefusedTest::used);
-        STATES.put("nothing found", RefusedTest::nothingFound);
-        STATES.put("a full draft", RefusedTest::fullDraft);
-        STATES.put("a full store", RefusedTest::fullStore);
-        SHOWN.put("the draft", RefusedTest::draft);
-        SHOWN.put("the latest validate", RefusedTest::latest);
-        SHOWN.put("the store", RefusedTest::store);
-        SHOWN.put("the template", RefusedTest::template);
-        SHOWN.put("the serials to be revoked", RefusedTest::revoked);
-        SHOWN.put("what comes next", RefusedTest::next);
-        for (String state : STATES.keySet()) {
-            SHOWN.forEach((what, look) -> DUE_TO_SHOW.put(state + what, look.apply(STATES.get(state).get())));
-        }
         statesDiffer();
         puts();
         pokes();
@@ -42,128 +19,13 @@ public final class RefusedTest extends Maker {
         validates();
         numbers();
         questions();
+        callsThatChangeTheDraft();
+        callsThatChangeTheTool();
+        callsThatChangeStoreOrSearch();
         DUE.end();
     }
 
-    private static CertificateVault used() {
-        CertificateVault x = new CertificateVault();
-        make(x, 0, "q>q", 5, 5);
-        make(x, 0, "r>r", 0, 0);
-        make(x, 1, "r>m", 1, 0, BASIC, 1);
-        make(x, 1, "m>t", 2, 1);
-        makeList(x, "r", 0, 0, 900, 5, 6, 7, 8);
-        make(x, 3, "ab>cd", 4, 3, SERIAL, 300, FROM, 20, TO, 40, BASIC, 1, REACH, 4, USAGE, 5, ALLOWED, name("e"),
-            BARRED, name("f.e"), STRANGE, 1);
-        x.validate(3, 30, 5, false);
-        x.put(9);
-        return x;
-    }
-
-    private static CertificateVault nothingFound() {
-        CertificateVault x = used();
-        x.validate(3, 30, 5, true);
-        x.clear();
-        return x;
-    }
-
-    private static CertificateVault fullDraft() {
-        CertificateVault x = new CertificateVault();
-        x.compose();
-        x.store(1);
-        for (int k = 43; k < 200; k++) {
-            x.put(k);
-        }
-        return x;
-    }
-
-    private static CertificateVault fullStore() {
-        CertificateVault x = new CertificateVault();
-        for (int k = 0; k < 12; k++) {
-            x.set(SERIAL, 50 + k);
-            x.compose();
-            x.store(k == 7 ? 0 : 1);
-        }
-        for (int k = 0; k < 6; k++) {
-            x.revoke(k, 10 * k);
-            x.composeList();
-            x.store(2);
-        }
-        x.set(SERIAL, 99);
-        x.compose();
-        x.validate(3, 5, 2, false);
-        return x;
-    }
-
-    private static List<Long> draft(CertificateVault x) {
-        List<Long> shown = new ArrayList<>();
-        for (int k = -2; k <= 200; k++) {
-            shown.add((long) x.at(k));
-        }
-        shown.add((long) x.check(true));
-        shown.add((long) x.check(false));
-        return shown;
-    }
-
-    private static List<Long> latest(CertificateVault x) {
-        List<Long> shown = new ArrayList<>();
-        for (int k = -1; k <= 6; k++) {
-            shown.add((long) x.chain(k));
-        }
-        shown.add((long) x.candidates());
-        return shown;
-    }
-
-    private static List<Long> store(CertificateVault x) {
-        List<Long> shown = new ArrayList<>();
-        for (int c = 0; c <= 12; c++) {
-            for (int what = 0; what <= 14; what++) {
-                shown.add(x.certificate(c, what));
-            }
-        }
-        for (int l = 0; l <= 6; l++) {
-            for (int what = 0; what <= 5; what++) {
-                shown.add(x.list(l, what));
-            }
-        }
-        return shown;
-    }
-
-    private static List<Long> template(CertificateVault x) {
-        List<Long> shown = new ArrayList<>();
-        shown.add((long) x.compose());
-        shown.addAll(draft(x));
-        return shown;
-    }
-
-    private static List<Long> revoked(CertificateVault x) {
-        List<Long> shown = new ArrayList<>();
-        shown.add((long) x.composeList());
-        shown.addAll(draft(x));
-        return shown;
-    }
-
-    /** A fifth serial, numbers of what is stored, searches through all of it. */
-    private static List<Long> next(CertificateVault x) {
-        List<Long> shown = new ArrayList<>();
-        shown.add(x.revoke(1, 1) ? 1L : 0);
-        shown.add(x.put(5) ? 1L : 0);
-        shown.add((long) x.compose());
-        shown.add((long) x.store(0));
-        shown.add((long) x.composeList());
-        shown.add((long) x.store(2));
-        for (int c = 0; c < 12; c++) {
-            for (int depth = 1; depth <= 5; depth += 2) {
-                shown.add((long) x.validate(c, 25, depth, false));
-                shown.add((long) x.candidates());
-                shown.add((long) x.validate(c, 25, depth, true));
-            }
-        }
-        return shown;
-    }
-
-    /** If two states showed the same, the test would say less than it seems to. */
     private static void statesDiffer() {
-        DUE.is("states that differ", new java.util.HashSet<>(DUE_TO_SHOW.values()).size() > 12, true);
         DUE.is("the used object has a chain", used().chain(2), 3);
         DUE.is("nothing was found", nothingFound().chain(0), -1);
         DUE.is("but one was looked at", nothingFound().candidates(), 1);
@@ -172,14 +34,26 @@ public final class RefusedTest extends Maker {
         DUE.is("the full store has a chain", fullStore().chain(0), 7);
     }
 
+    private static void unchanged(String call, Function<CertificateVault, Object> made, Object answer, String state,
+            String what) {
+        CertificateVault x = STATES.get(state).get();
+        Object got = made.apply(x);
+        DUE.isTrue(state + ": " + call + " answered " + got, got.equals(answer));
+        DUE.isTrue(state + ": " + what + " after " + call, LOOKS.get(what).apply(x).equals(dueToShow(state, what)));
+    }
+
     private static void refused(String call, Function<CertificateVault, Object> made, Object answer, String... states) {
         for (String state : states) {
-            SHOWN.forEach((what, look) -> {
-                CertificateVault x = STATES.get(state).get();
-                Object got = made.apply(x);
-                DUE.isTrue(state + ": " + call + " answered " + got, got.equals(answer));
-                DUE.isTrue(state + ": " + what + " after " + call, look.apply(x).equals(DUE_TO_SHOW.get(state + what)));
-            });
+            for (String what : LOOKS.keySet()) {
+                unchanged(call, made, answer, state, what);
+            }
+        }
+    }
+
+    private static void leaves(String call, Function<CertificateVault, Object> made, Object answer, String state,
+            String... whats) {
+        for (String what : whats) {
+            unchanged(call, made, answer, state, what);
         }
     }
 
@@ -192,7 +66,7 @@ public final class RefusedTest extends Maker {
             everywhere("put(" + b + ")", x -> x.put(b), false);
         }
         for (int b : new int[] {0, 7, 255}) {
-            refused("put(" + b + ")", x -> x.put(b), false, "a full draft");
+            refused("put(" + b + ")", x -> x.put(b), false, FULL_DRAFT);
         }
     }
 
@@ -205,7 +79,7 @@ public final class RefusedTest extends Maker {
             everywhere("poke(" + k + ", 5)", x -> x.poke(k, 5), false);
         }
         everywhere("poke behind the last byte", x -> x.poke(x.at(-1), 5), false);
-        refused("poke(0, 5)", x -> x.poke(0, 5), false, "a new object", "nothing found");
+        refused("poke(0, 5)", x -> x.poke(0, 5), false, NEW, NOTHING_FOUND);
     }
 
     private static void sets() {
@@ -230,8 +104,8 @@ public final class RefusedTest extends Maker {
         everywhere("revoke(MIN, 5)", x -> x.revoke(Long.MIN_VALUE, 5), false);
         everywhere("revoke(5, MIN)", x -> x.revoke(5, Long.MIN_VALUE), false);
         everywhere("revoke(-1, -1)", x -> x.revoke(-1, -1), false);
-        refused("a fifth revoke(5, 5)", x -> x.revoke(5, 5), false, "a full store");
-        refused("a fifth revoke(0, 0)", x -> x.revoke(0, 0), false, "a full store");
+        refused("a fifth revoke(5, 5)", x -> x.revoke(5, 5), false, FULL_STORE);
+        refused("a fifth revoke(0, 0)", x -> x.revoke(0, 0), false, FULL_STORE);
     }
 
     private static void stores() {
@@ -240,8 +114,8 @@ public final class RefusedTest extends Maker {
         }
         for (int kind : new int[] {0, 1, 2}) {
             refused("store(" + kind + ") of a fault", x -> x.store(kind), -2,
-                "a new object", "a used object", "nothing found", "a full draft");
-            refused("store(" + kind + ") without room", x -> x.store(kind), -1, "a full store");
+                NEW, USED, NOTHING_FOUND, FULL_DRAFT);
+            refused("store(" + kind + ") without room", x -> x.store(kind), -1, FULL_STORE);
         }
     }
 
@@ -249,8 +123,8 @@ public final class RefusedTest extends Maker {
         for (int target : new int[] {-1, 12, 13, Integer.MIN_VALUE, Integer.MAX_VALUE}) {
             everywhere("validate(" + target + ", 30, 5, false)", x -> x.validate(target, 30, 5, false), -1);
         }
-        refused("validate(0, 30, 5, false)", x -> x.validate(0, 30, 5, false), -1, "a new object");
-        refused("validate(4, 30, 5, true)", x -> x.validate(4, 30, 5, true), -1, "a used object", "nothing found");
+        refused("validate(0, 30, 5, false)", x -> x.validate(0, 30, 5, false), -1, NEW);
+        refused("validate(4, 30, 5, true)", x -> x.validate(4, 30, 5, true), -1, USED, NOTHING_FOUND);
         for (long time : new long[] {-1, Long.MIN_VALUE}) {
             everywhere("validate(0, " + time + ", 5, false)", x -> x.validate(0, time, 5, false), -1);
         }
@@ -294,5 +168,66 @@ public final class RefusedTest extends Maker {
             everywhere("list(0, " + what + ")", x -> x.list(0, w) == x.list(0, w), true);
         }
         everywhere("all that the latest validate shows", x -> latest(x).get(0), -1L);
+    }
+
+    private static void callsThatChangeTheDraft() {
+        for (String state : STATES.keySet()) {
+            leaves("clear()", x -> {
+                x.clear();
+                return x.at(-1);
+            }, 0, state, LATEST, STORE, TEMPLATE, REVOKED);
+            String[] others = {LATEST, STORE, TEMPLATE, REVOKED, NEXT};
+            leaves("compose()", x -> x.compose() > 40, true, state, LATEST, STORE, TEMPLATE, REVOKED);
+            leaves("composeList()", x -> x.composeList() > 20, true, state, LATEST, STORE, TEMPLATE, REVOKED);
+            if (!state.equals(FULL_DRAFT)) {
+                leaves("put(7)", x -> x.put(7), true, state, others);
+                leaves("compose()", x -> x.compose() > 40, true, state, others);
+                leaves("composeList()", x -> x.composeList() > 20, true, state, others);
+            }
+            if (!state.equals(NEW) && !state.equals(NOTHING_FOUND)) {
+                leaves("poke(0, 7)", x -> x.poke(0, 7), true, state, others);
+            }
+        }
+    }
+
+    private static void callsThatChangeTheTool() {
+        long[] right = {7, 7, 7, 7, 7, 2, 0, 7, 7, 7, 7, 2, 2};
+        for (String state : STATES.keySet()) {
+            for (int field = 0; field < right.length; field++) {
+                int f = field;
+                boolean ofLists = f == 1 || f == 2 || f == 3 || f == 12;
+                leaves("set(" + f + ", " + right[f] + ")", x -> x.set(f, right[f]), true, state, DRAFT, LATEST, STORE);
+                if (!ofLists) {
+                    leaves("set(" + f + ", " + right[f] + ")", x -> x.set(f, right[f]), true, state, REVOKED);
+                }
+            }
+            leaves("forgive()", x -> {
+                x.forgive();
+                return x.at(-2);
+            }, -1, state, DRAFT, LATEST, STORE, TEMPLATE);
+            if (!state.equals(FULL_STORE)) {
+                leaves("revoke(7, 8)", x -> x.revoke(7, 8), true, state, DRAFT, LATEST, STORE, TEMPLATE);
+            }
+        }
+    }
+
+    private static void callsThatChangeStoreOrSearch() {
+        for (String state : new String[] {USED, NOTHING_FOUND, FULL_STORE, FULL_DRAFT}) {
+            leaves("validate(0, 5, 1, false)", x -> x.validate(0, 5, 1, false) >= 0, true, state,
+                DRAFT, STORE, TEMPLATE, REVOKED, NEXT);
+        }
+        for (int kind = 0; kind <= 2; kind++) {
+            int k = kind;
+            CertificateVault x = used();
+            x.put(5);
+            long size = k == 2 ? x.composeList() : x.compose();
+            Object before = draft(x);
+            DUE.is("store(" + k + ")", x.store(k), k == 2 ? 1 : 4);
+            DUE.isTrue("the draft of " + size + " after store(" + k + ")", draft(x).equals(before));
+            leaves("compose and store(" + k + ")", y -> {
+                int size2 = k == 2 ? y.composeList() : y.compose();
+                return size2 > 0 && y.store(k) > 0;
+            }, true, USED, LATEST, TEMPLATE, REVOKED);
+        }
     }
 }
